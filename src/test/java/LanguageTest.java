@@ -37,7 +37,8 @@ public final class LanguageTest {
 
     /** Methods begin with four or eight blanks and end with a brace as far in. */
     private static void methodLengths(Checks checks, String code) {
-        Matcher found = Pattern.compile("(?m)^( {4}| {8})(?! )(?!.*\\bclass\\b)[^\n=]*\\) \\{\n(?s)(.*?)\n\\1\\}").matcher(code);
+        String head = "(?m)^( {4}| {8})(?! )(?!.*\\bclass\\b)[^\n=]*\\) \\{\n";
+        Matcher found = Pattern.compile(head + "(?s)(.*?)\n\\1\\}").matcher(code);
         int methods = 0;
         while (found.find()) {
             methods++;

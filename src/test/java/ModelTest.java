@@ -8,6 +8,7 @@ public final class ModelTest {
     private final BurstWords x = new BurstWords();
     private final Model m = new Model();
     private final String letters;
+    private final boolean deep;
     private final int wanted;
     private final int taking;
     private long dice;
@@ -18,7 +19,9 @@ public final class ModelTest {
         this.run = run;
         this.dice = 7919L * run + 1;
         this.letters = LETTERS[run % LETTERS.length];
-        this.wanted = 1 + throwDice(7);
+        // Long words in small containers make more nodes than others.
+        this.deep = run % 5 == 0;
+        this.wanted = deep ? 7 : 1 + throwDice(7);
         this.taking = throwDice(4);
     }
 
@@ -43,7 +46,7 @@ public final class ModelTest {
 
     private int play(int[] most) {
         if (throwDice(4) != 0) {
-            int b = 2 + throwDice(7);
+            int b = deep ? 2 : 2 + throwDice(7);
             same("bounds(" + b + ")", x.bounds(b), m.bounds(b));
             used++;
         }
@@ -60,7 +63,8 @@ public final class ModelTest {
         if (got != want) {
             wrong++;
             if (wrong <= 5) {
-                System.out.println("run " + run + ", call " + used + ": " + call + " answered " + got + ", due is " + want);
+                System.out.println("run " + run + ", call " + used + ": " + call + " answered " + got
+                        + ", due is " + want);
             }
         }
     }
@@ -85,8 +89,7 @@ public final class ModelTest {
     private void spell() {
         same("clear()", x.clear(), m.clear());
         used++;
-        // Words that are all as long as can be make more nodes than others.
-        int length = run % 5 == 0 ? wanted : 1 + throwDice(wanted);
+        int length = deep ? wanted : 1 + throwDice(wanted);
         for (int i = 0; i < length; i++) {
             // Mostly the first letter, so that words share long beginnings.
             int letter = throwDice(3) == 0 ? letters.charAt(0) : letters.charAt(throwDice(letters.length()));
@@ -107,36 +110,48 @@ public final class ModelTest {
     private void look() {
         used++;
         int k = throwDice(12) - 1;
-        int i = throwDice(9) - 2;
-        switch (throwDice(22)) {
+        int i = throwDice(10) - 2;
+        int half = throwDice(10) == 0 ? throwDice(4) - 1 : throwDice(2);
+        switch (throwDice(23)) {
             case 0 -> same("times()", x.times(), m.times());
             case 1 -> same("rank()", x.rank(), m.rank());
             case 2 -> same("begin()", x.begin(), m.begin());
             case 3 -> same("depth()", x.depth(), m.depth());
-            case 4 -> same("container(" + (k - 4) + ")", x.container(k - 4), m.container(k - 4));
+            case 4 -> same("container(" + half + ")", x.container(half), m.container(half));
             case 5 -> same("container(0)", x.container(0), m.container(0));
             case 6 -> same("telling()", x.telling(), m.telling());
             case 7 -> same("longest()", x.longest(), m.longest());
             case 8 -> same("like(" + k + ")", x.like(k), m.like(k));
-            case 9 -> same("odds(" + (k & 1) + ")", x.odds(k & 1), m.odds(k & 1));
+            case 9 -> same("odds(" + half + ")", x.odds(half), m.odds(half));
             case 10 -> same("kth(" + 4 * k + ", " + i + ")", x.kth(4 * k, i), m.kth(4 * k, i));
             case 11 -> same("unlike(" + 3 * k + ", " + i + ")", x.unlike(3 * k, i), m.unlike(3 * k, i));
             case 12 -> same("next(" + i + ")", x.next(i), m.next(i));
             case 13 -> same("top(" + k + ", " + i + ")", x.top(k, i), m.top(k, i));
             case 14, 15 -> see(i);
             case 16 -> same("forget()", x.forget(), m.forget());
-            case 17 -> same("fit(" + (k & 1) + ")", x.fit(k & 1), m.fit(k & 1));
+            case 17 -> same("fit(" + half + ")", x.fit(half), m.fit(half));
             case 18 -> same("ask()", x.ask(), m.ask());
             case 19 -> same("digest()", x.digest(), m.digest());
             case 20 -> same("bounds(" + k + ")", x.bounds(k), m.bounds(k));
+            case 21 -> typeAny();
             default -> countAll();
         }
     }
 
     private void see(int i) {
-        int letter = letters.charAt(throwDice(letters.length()));
-        int is = throwDice(5) / 2 == 0 ? 1 : 0;
+        int letter = throwDice(8) == 0 ? anySign() : letters.charAt(throwDice(letters.length()));
+        int is = throwDice(8) == 0 ? throwDice(4) - 1 : throwDice(5) < 2 ? 1 : 0;
         same("sees(" + i + ", " + letter + ", " + is + ")", x.sees(i, letter, is), m.sees(i, letter, is));
+    }
+
+    /** A letter or one of the signs beside them. */
+    private int anySign() {
+        return 'a' - 1 + throwDice(28);
+    }
+
+    private void typeAny() {
+        int sign = anySign();
+        same("type(" + sign + ")", x.type(sign), m.type(sign));
     }
 
     private void countAll() {

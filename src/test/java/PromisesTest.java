@@ -155,6 +155,9 @@ public final class PromisesTest {
         Words.say(x, "ab");
         due("5: depth() of it", x.depth(), 3);
         due("5: container(0) of it", x.container(0), NONE);
+        x = Words.of(2, "abc", "abd", "ab");
+        due("5: the word that was added becomes a node itself", x.count(2), 3);
+        due("5: and ends there", x.count(3), 2);
         x = Words.of(3, "a", "b", "c", "d");
         due("5: one burst is enough where they part", x.count(2), 1);
         due("5: containers where they part", x.count(3), 4);
@@ -252,6 +255,7 @@ public final class PromisesTest {
         x.adds();
         x.takes();
         due("7: what was refused is not known", x.undo(), STATE);
+        undoOfMany();
         BurstWords y = Words.of(4, "b");
         Words.say(y, "c");
         due("7: undo() of another word than THE WORD", y.undo(), 0);
@@ -261,6 +265,22 @@ public final class PromisesTest {
         y.adds();
         y.undo();
         due("7: what was seen stays", y.forget(), 1);
+    }
+
+    /** Promise 7: the words and shapes of 14 changes, of which the first two are lost. */
+    private static void undoOfMany() {
+        BurstWords x = new BurstWords();
+        x.bounds(2);
+        long[] digests = new long[15];
+        for (int n = 0; n < 14; n++) {
+            digests[n] = x.digest();
+            Words.add(x, word(n));
+        }
+        for (int n = 13; n >= 2; n--) {
+            due("7: undo() of many", x.undo(), n - 2);
+            due("7: digest() ahead of word " + n, x.digest(), digests[n]);
+        }
+        due("7: the first two are lost", x.undo(), STATE);
     }
 
     /** Promise 7: NODES are what they were, though adding and taking alone would leave others. */
@@ -345,6 +365,10 @@ public final class PromisesTest {
         BurstWords x = Words.of(4, "abc", "abc");
         Words.say(x, "abc");
         due("13: alone, though twice there", x.telling(), 0);
+        Words.add(x, "a");
+        Words.say(x, "abc");
+        due("13: the other begins it", x.telling(), 2);
+        Words.take(x, "a");
         Words.add(x, "abd");
         Words.add(x, "ab");
         Words.add(x, "b");
@@ -575,7 +599,12 @@ public final class PromisesTest {
 
     /** Promise 25: SHARED. */
     private static void shared() {
-        BurstWords x = Words.of(4, "a", "b", "c");
+        BurstWords x = Words.of(4, "abc", "abd");
+        due("25: two words share", x.count(7), 2);
+        due("25: by the one pair", x.count(8), 1);
+        Words.add(x, "b");
+        due("25: the first pair shares the most", x.count(7), 2);
+        x = Words.of(4, "a", "b", "c");
         due("25: nothing is shared", x.count(7), 0);
         due("25: by all pairs", x.count(8), 2);
         Words.add(x, "a");
