@@ -15,13 +15,14 @@ public final class ExtremesTest {
         Checks checks = new Checks();
         for (int words : new int[] {0, 1, 5, 40}) {
             for (int a : ODD) {
-                ExtremesTest test = new ExtremesTest(checks);
-                test.fill(words);
-                test.ofOne(a);
                 for (int b : ODD) {
+                    // An object each, for none is promised more than 512 calls.
+                    ExtremesTest test = new ExtremesTest(checks);
+                    test.fill(words);
+                    test.ofOne(a);
                     test.ofTwo(a, b);
+                    test.without();
                 }
-                test.without();
             }
         }
         checks.finish();
